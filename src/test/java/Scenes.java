@@ -1,0 +1,56 @@
+/** Ledgers that several tests begin with. */
+final class Scenes {
+    private Scenes() {
+    }
+
+    static EnergyLedger withMembers(int count) {
+        EnergyLedger x = new EnergyLedger();
+        for (int k = 0; k < count; k++) {
+            x.addMember();
+        }
+        return x;
+    }
+
+    /** Three members, a battery, prices of its own, and readings in slot 0; no slot is closed. */
+    static EnergyLedger open() {
+        EnergyLedger x = withMembers(3);
+        x.setMember(1, 40, 7);
+        x.setMember(2, 20, 1);
+        x.setRule(1);
+        x.setPrices(33, 7, 20);
+        x.setBattery(1000, 400, 90);
+        x.meter(0, 0, 900, 100);
+        x.meter(1, 0, 0, 300);
+        x.meter(2, 0, 10, 200);
+        return x;
+    }
+
+    /** The same with four slots, of which 0 is settled, 1 and 2 are closed, and 3 is open and has readings. */
+    static EnergyLedger running() {
+        EnergyLedger x = open();
+        x.close();
+        x.settle(5);
+        x.pay(1, 300);
+        x.meter(0, 1, 700, 50);
+        x.meter(1, 1, 0, 80);
+        x.close();
+        x.meter(1, 2, 0, 250);
+        x.meter(2, 2, 0, 251);
+        x.close();
+        x.correct(0, 1, 800, 60);
+        x.meter(0, 3, 400, 0);
+        x.meter(1, 3, 0, 300);
+        x.meter(2, 3, 0, 500);
+        return x;
+    }
+
+    /** Two members and 48 closed slots. */
+    static EnergyLedger full() {
+        EnergyLedger x = withMembers(2);
+        x.meter(0, 47, 10, 0);
+        for (int slot = 0; slot < 48; slot++) {
+            x.close();
+        }
+        return x;
+    }
+}

@@ -1,0 +1,217 @@
+/** What promise 12 (close) rests on: the four rules of sharing, the battery and the grid. */
+public final class SharingTest {
+    private static final int EQUAL = 0;
+    private static final int SHARES = 1;
+    private static final int ROOM = 2;
+    private static final int RANK = 3;
+    private static final int[] NONE = {};
+
+    public static void main(String[] args) {
+        equal();
+        shares();
+        room();
+        rank();
+        givers();
+        charging();
+        discharging();
+        termsOfTheMoment();
+        Check.end("SharingTest");
+    }
+
+    /** One member more than there are needs generates the amount. */
+    private static EnergyLedger closed(int rule, int amount, int[] needs, int[] shares, int[] ranks) {
+        EnergyLedger x = Scenes.withMembers(needs.length + 1);
+        x.setRule(rule);
+        for (int k = 0; k < needs.length; k++) {
+            x.setMember(k, k < shares.length ? shares[k] : 10, k < ranks.length ? ranks[k] : k);
+            x.meter(k, 0, 0, needs[k]);
+        }
+        x.meter(needs.length, 0, amount, 0);
+        x.close();
+        return x;
+    }
+
+    private static void check(String what, EnergyLedger x, int flow, int... due) {
+        for (int k = 0; k < due.length; k++) {
+            Check.equal(what + ", member " + k, x.flow(0, k, flow), due[k]);
+        }
+    }
+
+    private static int[] row(int... numbers) {
+        return numbers;
+    }
+
+    private static void equal() {
+        check("EQUAL", closed(EQUAL, 9, row(10, 10, 10), NONE, NONE), 1, 3, 3, 3);
+        check("EQUAL, a rest", closed(EQUAL, 8, row(10, 10, 10), NONE, NONE), 1, 3, 3, 2);
+        check("EQUAL, less than members", closed(EQUAL, 2, row(10, 10, 10), NONE, NONE), 1, 1, 1, 0);
+        check("EQUAL, a small room", closed(EQUAL, 7, row(1, 10, 10), NONE, NONE), 1, 1, 3, 3);
+        check("EQUAL, a small room between", closed(EQUAL, 8, row(5, 1, 5), NONE, NONE), 1, 4, 1, 3);
+        check("EQUAL, no room", closed(EQUAL, 5, row(0, 5, 5), NONE, NONE), 1, 0, 3, 2);
+        check("EQUAL, all is full", closed(EQUAL, 99, row(7, 2, 1), NONE, NONE), 1, 7, 2, 1);
+        check("EQUAL, many rounds", closed(EQUAL, 31, row(1, 2, 4, 8, 100), NONE, NONE), 1, 1, 2, 4, 8, 16);
+        check("EQUAL, no shares", closed(EQUAL, 3, row(5, 5), row(0, 100), row(9, 0)), 1, 2, 1);
+        check("EQUAL, nothing", closed(EQUAL, 0, row(5, 5), NONE, NONE), 1, 0, 0);
+    }
+
+    private static void shares() {
+        check("SHARES", closed(SHARES, 60, row(100, 100, 100), row(10, 20, 30), NONE), 1, 10, 20, 30);
+        check("SHARES, a rest", closed(SHARES, 61, row(100, 100, 100), row(10, 20, 30), NONE), 1, 11, 20, 30);
+        check("SHARES, a small room", closed(SHARES, 60, row(5, 100, 100), row(10, 20, 30), NONE), 1, 5, 22, 33);
+        check("SHARES, the rest goes by shares", closed(SHARES, 5, row(100, 100, 100), row(1, 1, 100), NONE), 1, 1, 0, 4);
+        check("SHARES, 1 each", closed(SHARES, 2, row(9, 9, 9), row(10, 10, 10), NONE), 1, 1, 1, 0);
+        check("SHARES, 1 each by shares alone", closed(SHARES, 1, row(9, 9, 9), row(0, 10, 10), NONE), 1, 0, 1, 0);
+        check("SHARES, then EQUAL", closed(SHARES, 17, row(10, 10, 10), row(0, 0, 5), NONE), 1, 4, 3, 10);
+        check("SHARES, none", closed(SHARES, 5, row(10, 10, 10), row(0, 0, 0), NONE), 1, 2, 2, 1);
+        check("SHARES, the share of the full counts no more",
+                closed(SHARES, 30, row(0, 100, 100), row(100, 1, 2), NONE), 1, 0, 10, 20);
+        check("SHARES, large", closed(SHARES, 5000, row(5000, 5000), row(100, 99), NONE), 1, 2513, 2487);
+    }
+
+    private static void room() {
+        check("ROOM", closed(ROOM, 30, row(10, 20, 30), NONE, NONE), 1, 5, 10, 15);
+        check("ROOM, a rest", closed(ROOM, 31, row(10, 20, 30), NONE, NONE), 1, 6, 10, 15);
+        check("ROOM, a rest goes past who has no room", closed(ROOM, 5, row(0, 3, 3), NONE, NONE), 1, 0, 3, 2);
+        check("ROOM, all is full", closed(ROOM, 70, row(10, 20, 30), NONE, NONE), 1, 10, 20, 30);
+        check("ROOM, less than members", closed(ROOM, 2, row(5, 5, 5), row(0, 0, 9), row(9, 8, 7)), 1, 1, 1, 0);
+        check("ROOM, a rest of several", closed(ROOM, 4, row(1, 1, 1, 1, 2), NONE, NONE), 1, 1, 1, 1, 0, 1);
+        check("ROOM, large", closed(ROOM, 4999, row(5000, 5000, 5000, 5000, 5000), NONE, NONE), 1, 1000, 1000, 1000, 1000, 999);
+    }
+
+    private static void rank() {
+        check("RANK", closed(RANK, 25, row(10, 10, 10), NONE, row(5, 3, 3)), 1, 5, 10, 10);
+        check("RANK, the same ranks", closed(RANK, 15, row(10, 10, 10), NONE, row(3, 3, 3)), 1, 10, 5, 0);
+        check("RANK, backwards", closed(RANK, 15, row(10, 10, 10), NONE, row(99, 98, 97)), 1, 0, 5, 10);
+        check("RANK, 0 and 99", closed(RANK, 11, row(10, 10, 10), NONE, row(99, 0, 99)), 1, 1, 10, 0);
+        check("RANK, all is full", closed(RANK, 40, row(10, 0, 10), NONE, row(9, 1, 0)), 1, 10, 0, 10);
+        check("RANK, five", closed(RANK, 35, row(10, 10, 10, 10, 10), NONE, row(4, 0, 3, 0, 4)), 1, 5, 10, 10, 10, 0);
+    }
+
+    /** Whatever the rule is, surpluses are taken by ROOM. */
+    private static void givers() {
+        for (int rule = 0; rule < 4; rule++) {
+            EnergyLedger x = Scenes.withMembers(4);
+            x.setRule(rule);
+            x.setBattery(1000, 13, 100);
+            x.setMember(0, 0, 9);
+            x.setMember(1, 0, 4);
+            x.setMember(2, 100, 1);
+            x.meter(0, 0, 10, 0);
+            x.meter(1, 0, 25, 5);
+            x.meter(2, 0, 30, 0);
+            x.meter(3, 0, 0, 31);
+            Check.equal("close", x.close(), 31);
+            check("what is given to members", x, 4, 6, 10, 15, 0);
+            // 4, 10 and 15 are left: 13 of 29 are 1, 4 and 6, then 1 each for the first two
+            check("what is given into the battery", x, 5, 2, 5, 6, 0);
+            check("what is given to the grid", x, 6, 2, 5, 9, 0);
+            check("the money", x, 7, 6 * 18 + 2 * 18 + 2 * 8, 10 * 18 + 5 * 18 + 5 * 8, 15 * 18 + 6 * 18 + 9 * 8, -31 * 18);
+            Check.equal("the pot", x.common(0), -13 * 18);
+            Check.equal("the grid", x.common(1), -16 * 8);
+            Check.equal("the bank", x.common(2), 0);
+        }
+    }
+
+    private static EnergyLedger charged(int capacity, int power, int efficiency, int surplus) {
+        EnergyLedger x = Scenes.withMembers(1);
+        x.setBattery(capacity, power, efficiency);
+        x.meter(0, 0, surplus, 0);
+        x.close();
+        return x;
+    }
+
+    private static void checkCharge(EnergyLedger x, int amount, int content) {
+        Check.equal("what goes into the battery", x.flow(0, 0, 5), amount);
+        Check.equal("what goes to the grid", x.flow(0, 0, 6), x.reading(0, 0, false) - amount);
+        Check.equal("the content", x.content(), content);
+        Check.equal("the pot", x.common(0), -18L * amount);
+    }
+
+    private static void charging() {
+        checkCharge(charged(1000, 300, 100, 299), 299, 299);
+        checkCharge(charged(1000, 300, 100, 301), 300, 300);
+        checkCharge(charged(100, 300, 100, 301), 100, 100);
+        checkCharge(charged(1000, 300, 33, 10), 10, 3);
+        checkCharge(charged(1000, 300, 80, 5000), 300, 240);
+        checkCharge(charged(100, 5000, 7, 5000), 1442, 100);
+        checkCharge(charged(50, 5000, 99, 5000), 51, 50);
+        checkCharge(charged(0, 5000, 100, 5000), 0, 0);
+        checkCharge(charged(0, 5000, 50, 5000), 1, 0);
+        checkCharge(charged(0, 5000, 1, 5000), 99, 0);
+        checkCharge(charged(20000, 5000, 1, 5000), 5000, 50);
+        checkCharge(charged(20000, 0, 100, 5000), 0, 0);
+        EnergyLedger x = charged(100, 60, 100, 5000);
+        x.meter(0, 1, 5000, 0);
+        x.close();
+        Check.equal("no more than what is free", x.flow(1, 0, 5), 40);
+        Check.equal("full", x.content(), 100);
+    }
+
+    private static EnergyLedger filled(int members, int content) {
+        EnergyLedger x = Scenes.withMembers(members);
+        x.setBattery(content, content, 100);
+        x.meter(0, 0, content, 0);
+        x.close();
+        return x;
+    }
+
+    private static void discharging() {
+        EnergyLedger x = filled(3, 100);
+        x.setRule(RANK);
+        x.setMember(1, 10, 5);
+        x.setMember(2, 10, 3);
+        x.setBattery(100, 70, 1);
+        x.meter(1, 1, 0, 50);
+        x.meter(2, 1, 0, 50);
+        Check.equal("nothing goes from member to member", x.close(), 0);
+        Check.equal("by the rule", x.flow(1, 1, 2), 20);
+        Check.equal("by the rule", x.flow(1, 2, 2), 50);
+        Check.equal("the rest from the grid", x.flow(1, 1, 3), 30);
+        Check.equal("the money", x.flow(1, 1, 7), -20 * 18 - 30 * 30);
+        Check.equal("the efficiency is of charging alone", x.content(), 30);
+        Check.equal("the pot", x.common(0), -100 * 18 + 70 * 18);
+        Check.equal("the grid", x.common(1), 30 * 30);
+        x.setRule(EQUAL);
+        x.meter(1, 2, 0, 50);
+        x.meter(2, 2, 0, 50);
+        x.close();
+        Check.equal("not more than the content", x.flow(2, 1, 2), 15);
+        Check.equal("empty", x.content(), 0);
+        EnergyLedger y = filled(2, 100);
+        y.meter(1, 1, 0, 40);
+        y.close();
+        Check.equal("not more than the needs", y.flow(1, 1, 2), 40);
+        Check.equal("the content", y.content(), 60);
+        EnergyLedger z = filled(2, 100);
+        z.meter(0, 1, 10, 0);
+        z.meter(1, 1, 0, 10);
+        Check.equal("nothing is left", z.close(), 10);
+        Check.equal("the battery rests", z.content(), 100);
+    }
+
+    /** What is set after a slot has been closed does not touch it, also not when it is closed anew. */
+    private static void termsOfTheMoment() {
+        EnergyLedger x = Scenes.open();
+        EnergyLedger y = Scenes.open();
+        x.close();
+        y.close();
+        x.setRule(RANK);
+        x.setPrices(1, 2, 3);
+        x.setMember(0, 99, 9);
+        x.setMember(1, 0, 0);
+        x.setMember(2, 1, 50);
+        x.setBattery(20000, 5000, 1);
+        Check.equal("correct", x.correct(0, 0, 500, 1), y.correct(0, 0, 500, 1));
+        for (int m = 0; m < 3; m++) {
+            for (int what = 0; what < 8; what++) {
+                Check.equal("flow", x.flow(0, m, what), y.flow(0, m, what));
+            }
+        }
+        Check.equal("content", x.content(), y.content());
+        EnergyLedger z = Scenes.withMembers(2);
+        z.meter(0, 0, 10, 0);
+        z.setPrices(30, 1, 18);
+        z.close();
+        Check.equal("what holds is of the moment of closing", z.flow(0, 0, 7), 10);
+    }
+}
