@@ -1,0 +1,126 @@
+/** Promises 16 and 17: would and bestRule. */
+public final class TrialTest {
+    public static void main(String[] args) {
+        would();
+        wouldIsWhatCloseDoes();
+        wouldChangesNothing();
+        bestRule();
+        refusals();
+        Check.end("TrialTest");
+    }
+
+    private static void would() {
+        EnergyLedger x = Scenes.withMembers(4);
+        x.setMember(0, 1, 9);
+        x.setMember(1, 3, 5);
+        x.setMember(2, 0, 7);
+        x.meter(0, 0, 0, 10);
+        x.meter(1, 0, 0, 20);
+        x.meter(2, 0, 0, 30);
+        x.meter(3, 0, 24, 0);
+        int[][] got = {{8, 8, 8}, {6, 18, 0}, {4, 8, 12}, {0, 20, 4}};
+        for (int rule = 0; rule < 4; rule++) {
+            for (int m = 0; m < 3; m++) {
+                int needed = 10 * (m + 1);
+                Check.equal("would(" + m + ", " + rule + ")", x.would(m, rule),
+                        -18 * got[rule][m] - 30 * (needed - got[rule][m]));
+            }
+            Check.equal("would of the giver", x.would(3, rule), 24 * 18);
+        }
+        EnergyLedger empty = Scenes.withMembers(1);
+        Check.equal("would of an empty slot", empty.would(0, 3), 0);
+        EnergyLedger sells = Scenes.withMembers(1);
+        sells.setBattery(3, 9, 100);
+        sells.meter(0, 0, 10, 0);
+        Check.equal("would with battery and grid", sells.would(0, 0), 3 * 18 + 7 * 8);
+        sells.close();
+        sells.meter(0, 1, 0, 10);
+        Check.equal("would with the content of now", sells.would(0, 0), -3 * 18 - 7 * 30);
+        sells.setPrices(1, 1, 2);
+        Check.equal("would with the prices of now", sells.would(0, 0), -3 * 2 - 7);
+    }
+
+    private static void wouldIsWhatCloseDoes() {
+        for (int rule = 0; rule < 4; rule++) {
+            EnergyLedger x = Scenes.running();
+            x.setRule(rule);
+            int[] due = {x.would(0, rule), x.would(1, rule), x.would(2, rule)};
+            x.setRule((rule + 1) % 4);
+            Check.equal("the rule of now does not matter", x.would(1, rule), due[1]);
+            x.setRule(rule);
+            x.close();
+            for (int m = 0; m < 3; m++) {
+                Check.equal("would is what close does", due[m], x.flow(3, m, 7));
+            }
+        }
+    }
+
+    private static void wouldChangesNothing() {
+        EnergyLedger x = Scenes.running();
+        long before = x.digest();
+        for (int rule = 0; rule < 4; rule++) {
+            x.would(1, rule);
+            x.bestRule(2);
+        }
+        Check.equal("the digest", x.digest(), before);
+        Check.equal("the rule", x.setRule(1), 1);
+        Check.equal("contentAt", x.contentAt(3), -1);
+        x.close();
+        EnergyLedger y = Scenes.running();
+        y.close();
+        Check.equal("the close thereafter", x.digest(), y.digest());
+    }
+
+    private static void bestRule() {
+        EnergyLedger x = Scenes.withMembers(4);
+        Check.equal("all alike", x.bestRule(0), 0);
+        x.setMember(0, 1, 9);
+        x.setMember(1, 3, 5);
+        x.setMember(2, 0, 7);
+        x.meter(0, 0, 0, 10);
+        x.meter(1, 0, 0, 20);
+        x.meter(2, 0, 0, 30);
+        x.meter(3, 0, 24, 0);
+        Check.equal("bestRule", x.bestRule(0), 0);
+        Check.equal("bestRule", x.bestRule(1), 3);
+        Check.equal("bestRule", x.bestRule(2), 2);
+        Check.equal("bestRule of the giver", x.bestRule(3), 0);
+        x.setMember(1, 99, 5);
+        Check.equal("of several the smallest", x.bestRule(1), 1);
+        x.setPrices(1, 8, 18);
+        Check.equal("the grid is cheaper", x.bestRule(2), 1);
+        Check.equal("the grid is cheaper", x.bestRule(1), 0);
+        x.setRule(3);
+        Check.equal("the rule of now does not matter", x.bestRule(1), 0);
+        EnergyLedger gains = Scenes.withMembers(1);
+        gains.meter(0, 0, 10, 0);
+        Check.equal("what it gets is alike", gains.bestRule(0), 0);
+        EnergyLedger last = Scenes.withMembers(1);
+        for (int slot = 0; slot < 47; slot++) {
+            last.close();
+        }
+        last.meter(0, 47, 0, 2);
+        Check.equal("would of the last slot", last.would(0, 1), -60);
+        Check.equal("bestRule of the last slot", last.bestRule(0), 0);
+    }
+
+    private static void refusals() {
+        int[] noMember = {-1, 3, 6, Integer.MAX_VALUE, Integer.MIN_VALUE};
+        for (int member : noMember) {
+            Check.refused("would of no member", Check.INDEX, Scenes::running, x -> x.would(member, 0));
+            Check.refused("would of no member, wrong rule", Check.INDEX, Scenes::running, x -> x.would(member, 4));
+            Check.refused("would of no member, all closed", Check.INDEX, Scenes::full, x -> x.would(member, 4));
+            Check.refused("bestRule of no member", Check.INDEX, Scenes::running, x -> x.bestRule(member));
+            Check.refused("bestRule of no member, all closed", Check.INDEX, Scenes::full, x -> x.bestRule(member));
+        }
+        int[] noRule = {-1, 4, Integer.MAX_VALUE, Integer.MIN_VALUE};
+        for (int rule : noRule) {
+            Check.refused("would by no rule", Check.ARGUMENT, Scenes::running, x -> x.would(0, rule));
+            Check.refused("would by no rule, all closed", Check.ARGUMENT, Scenes::full, x -> x.would(0, rule));
+        }
+        Check.refused("would when all are closed", Check.STATE, Scenes::full, x -> x.would(1, 3));
+        Check.refused("bestRule when all are closed", Check.STATE, Scenes::full, x -> x.bestRule(1));
+        Check.refused("would without members", Check.INDEX, EnergyLedger::new, x -> x.would(0, 0));
+        Check.refused("bestRule without members", Check.INDEX, EnergyLedger::new, x -> x.bestRule(0));
+    }
+}
