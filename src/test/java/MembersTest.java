@@ -142,7 +142,8 @@ public final class MembersTest {
 
     private static void refusals() {
         Check.refused("a seventh member", Check.STATE, () -> Scenes.withMembers(6), x -> x.addMember());
-        Check.refused("a member after a close", Check.STATE, Scenes::running, x -> x.addMember());
+        Check.refused("a member after some closes", Check.STATE, Scenes::running, x -> x.addMember());
+        Check.refused("a member after one close", Check.STATE, MembersTest::closedOnce, x -> x.addMember());
 
         int[] noMember = {-1, 3, 6, Integer.MAX_VALUE, Integer.MIN_VALUE};
         for (int member : noMember) {
@@ -166,5 +167,11 @@ public final class MembersTest {
         for (int[] w : wrongBattery) {
             Check.refused("setBattery", Check.ARGUMENT, Scenes::running, x -> x.setBattery(w[0], w[1], w[2]));
         }
+    }
+
+    private static EnergyLedger closedOnce() {
+        EnergyLedger x = Scenes.withMembers(1);
+        x.close();
+        return x;
     }
 }

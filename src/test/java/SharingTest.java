@@ -51,6 +51,7 @@ public final class SharingTest {
         check("EQUAL, all is full", closed(EQUAL, 99, row(7, 2, 1), NONE, NONE), 1, 7, 2, 1);
         check("EQUAL, many rounds", closed(EQUAL, 31, row(1, 2, 4, 8, 100), NONE, NONE), 1, 1, 2, 4, 8, 16);
         check("EQUAL, no shares", closed(EQUAL, 3, row(5, 5), row(0, 100), row(9, 0)), 1, 2, 1);
+        check("EQUAL, rooms of 1 count", closed(EQUAL, 5, row(10, 10, 1, 1), NONE, NONE), 1, 2, 1, 1, 1);
         check("EQUAL, nothing", closed(EQUAL, 0, row(5, 5), NONE, NONE), 1, 0, 0);
     }
 
@@ -65,6 +66,9 @@ public final class SharingTest {
         check("SHARES, none", closed(SHARES, 5, row(10, 10, 10), row(0, 0, 0), NONE), 1, 2, 2, 1);
         check("SHARES, the share of the full counts no more",
                 closed(SHARES, 30, row(0, 100, 100), row(100, 1, 2), NONE), 1, 0, 10, 20);
+        check("SHARES, one share of 1", closed(SHARES, 5, row(10, 10), row(0, 1), NONE), 1, 0, 5);
+        check("SHARES, far apart", closed(SHARES, 31, row(100, 100), row(30, 1), NONE), 1, 30, 1);
+        check("SHARES, a room of 1 counts", closed(SHARES, 10, row(100, 1), row(10, 10), NONE), 1, 9, 1);
         check("SHARES, large", closed(SHARES, 5000, row(5000, 5000), row(100, 99), NONE), 1, 2513, 2487);
     }
 
@@ -75,6 +79,7 @@ public final class SharingTest {
         check("ROOM, all is full", closed(ROOM, 70, row(10, 20, 30), NONE, NONE), 1, 10, 20, 30);
         check("ROOM, less than members", closed(ROOM, 2, row(5, 5, 5), row(0, 0, 9), row(9, 8, 7)), 1, 1, 1, 0);
         check("ROOM, a rest of several", closed(ROOM, 4, row(1, 1, 1, 1, 2), NONE, NONE), 1, 1, 1, 1, 0, 1);
+        check("ROOM, one room of 1", closed(ROOM, 5, row(0, 1), NONE, NONE), 1, 0, 1);
         check("ROOM, large", closed(ROOM, 4999, row(5000, 5000, 5000, 5000, 5000), NONE, NONE), 1, 1000, 1000, 1000, 1000, 999);
     }
 
