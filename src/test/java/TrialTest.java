@@ -9,7 +9,8 @@ public final class TrialTest {
         Check.end("TrialTest");
     }
 
-    private static void would() {
+    /** Three members with needs, for whom the rules differ, and one that gives less than they need. */
+    private static EnergyLedger eachRuleApart() {
         EnergyLedger x = Scenes.withMembers(4);
         x.setMember(0, 1, 9);
         x.setMember(1, 3, 5);
@@ -18,6 +19,11 @@ public final class TrialTest {
         x.meter(1, 0, 0, 20);
         x.meter(2, 0, 0, 30);
         x.meter(3, 0, 24, 0);
+        return x;
+    }
+
+    private static void would() {
+        EnergyLedger x = eachRuleApart();
         int[][] got = {{8, 8, 8}, {6, 18, 0}, {4, 8, 12}, {0, 20, 4}};
         for (int rule = 0; rule < 4; rule++) {
             for (int m = 0; m < 3; m++) {
@@ -72,15 +78,8 @@ public final class TrialTest {
     }
 
     private static void bestRule() {
-        EnergyLedger x = Scenes.withMembers(4);
-        Check.equal("all alike", x.bestRule(0), 0);
-        x.setMember(0, 1, 9);
-        x.setMember(1, 3, 5);
-        x.setMember(2, 0, 7);
-        x.meter(0, 0, 0, 10);
-        x.meter(1, 0, 0, 20);
-        x.meter(2, 0, 0, 30);
-        x.meter(3, 0, 24, 0);
+        Check.equal("all alike", Scenes.withMembers(4).bestRule(0), 0);
+        EnergyLedger x = eachRuleApart();
         Check.equal("bestRule", x.bestRule(0), 0);
         Check.equal("bestRule", x.bestRule(1), 3);
         Check.equal("bestRule", x.bestRule(2), 2);
