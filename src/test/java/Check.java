@@ -1,4 +1,5 @@
 import java.util.function.Consumer;
+import java.util.function.ObjIntConsumer;
 import java.util.function.Supplier;
 
 /** Counts the answers that are not the due ones, and ends a test's run with exit code 1 if there is one. */
@@ -35,54 +36,46 @@ final class Check {
 
     /** A call on a scene has to throw exactly this exception, and the scene goes on as if it had not been called. */
     static void refused(String what, Class<?> due, Supplier<EnergyLedger> scene, Consumer<EnergyLedger> call) {
-        EnergyLedger ledger = scene.get();
-        Class<?> thrown = thrown(ledger, call);
+        Class<?> thrown = thrown(scene.get(), call);
         isTrue(what + " has to throw " + due + ", it threw " + thrown, due == thrown);
-        equal(what + " changes nothing", trace(ledger), trace(scene.get()));
+        changesNothing(what, scene, call);
     }
 
-    private static Class<?> thrown(EnergyLedger ledger, Consumer<EnergyLedger> call) {
+    /** A call on a scene must not throw. */
+    static void allowed(String what, Supplier<EnergyLedger> scene, Consumer<EnergyLedger> call) {
+        Class<?> thrown = thrown(scene.get(), call);
+        isTrue(what + " has to be allowed, it threw " + thrown, thrown == null);
+    }
+
+    /** From least to most a number is allowed, what is beside them is refused, far away too. */
+    static void bounds(String what, Class<?> due, Supplier<EnergyLedger> scene, int least, int most,
+            ObjIntConsumer<EnergyLedger> call) {
+        int[] inside = {least, least + (most - least) / 2, most};
+        for (int number : inside) {
+            allowed(what + " of " + number, scene, x -> call.accept(x, number));
+        }
+        int[] outside = {least - 1, most + 1, Integer.MIN_VALUE, Integer.MAX_VALUE};
+        for (int number : outside) {
+            refused(what + " of " + number, due, scene, x -> call.accept(x, number));
+        }
+    }
+
+    /** Whether the call throws or not: a scene goes on as if it had not been called. */
+    static void changesNothing(String what, Supplier<EnergyLedger> scene, Consumer<EnergyLedger> call) {
+        for (int view = 0; view < Trace.VIEWS; view++) {
+            EnergyLedger called = scene.get();
+            thrown(called, call);
+            equal(what + " changes nothing, view " + view, Trace.of(called, view), Trace.of(scene.get(), view));
+        }
+    }
+
+    static Class<?> thrown(EnergyLedger ledger, Consumer<EnergyLedger> call) {
         try {
             call.accept(ledger);
             return null;
         } catch (RuntimeException e) {
             return e.getClass();
         }
-    }
-
-    /** What a ledger tells of itself, and what it then does in two slots more: well below 512 calls. */
-    private static String trace(EnergyLedger x) {
-        StringBuilder out = new StringBuilder();
-        append(out, x);
-        int[] slots = {0, 1, 2, 3, 47};
-        for (int m = 0; m < x.members(); m++) {
-            for (int slot : slots) {
-                out.append(x.reading(m, slot, false)).append(' ').append(x.reading(m, slot, true)).append(' ');
-            }
-        }
-        for (int rule = 0; rule < 4 && x.present() < 48; rule++) {
-            for (int m = 0; m < x.members(); m++) {
-                out.append(x.would(m, rule)).append(' ');
-            }
-        }
-        out.append(thrown(x, y -> y.addMember()));
-        for (int more = 0; more < 2 && x.members() > 0 && x.present() < 48; more++) {
-            for (int m = 0; m < x.members(); m++) {
-                x.meter(m, x.present(), m == more ? 5000 : 0, 200 * m * more);
-            }
-            x.close();
-            append(out, x);
-        }
-        out.append(x.settle(1));
-        append(out, x);
-        return out.toString();
-    }
-
-    private static void append(StringBuilder out, EnergyLedger x) {
-        out.append(x.members()).append(' ').append(x.present()).append(' ').append(x.content()).append(' ')
-                .append(x.corrections()).append(' ').append(x.late(0)).append(' ').append(x.independence()).append(' ')
-                .append(x.common(0)).append(' ').append(x.common(1)).append(' ').append(x.common(2)).append(' ')
-                .append(x.digest()).append('\n');
     }
 
     static void end(String test) {

@@ -3,8 +3,10 @@ public final class MembersTest {
     public static void main(String[] args) {
         newObject();
         addMember();
+        sixMembers();
         firstValues();
         setMember();
+        settingsAtAnyTime();
         setRule();
         setPrices();
         setBattery();
@@ -45,6 +47,53 @@ public final class MembersTest {
         late.settle(3);
         Check.equal("a member may come after settle while no slot is closed", late.addMember(), 1);
         Check.equal("who comes later owes no fee of before", late.account(1, true), 0);
+    }
+
+    /** The sixth is the last one; what each of them has at first is in the digest: 10, its number, 0 and 0. */
+    private static void sixMembers() {
+        EnergyLedger x = new EnergyLedger();
+        for (int k = 0; k < 6; k++) {
+            x.addMember();
+            long d = (((199L * 31 + (k + 1)) * 31) * 31) * 31;
+            for (int m = 0; m <= k; m++) {
+                d = (((d * 31 + 10) * 31 + m) * 31) * 31;
+            }
+            Check.equal("digest of " + (k + 1) + " members", x.digest(), d * 31 * 31 * 31 * 31 * 31);
+        }
+        Check.isTrue("a seventh", Check.thrown(x, y -> y.addMember()) == Check.STATE);
+        Check.equal("members", x.members(), 6);
+        Check.isTrue("an eighth", Check.thrown(x, y -> y.addMember()) == Check.STATE);
+        Check.equal("members", x.members(), 6);
+        Check.equal("what else is asked of six goes on", x.close(), 0);
+        Check.equal("members", x.members(), 6);
+        EnergyLedger one = Scenes.withMembers(1);
+        one.meter(0, 0, 1, 1);
+        one.would(0, 0);
+        one.bestRule(0);
+        Check.equal("as long as no slot is closed, one may come", one.addMember(), 1);
+        one.close();
+        Check.isTrue("then not", Check.thrown(one, y -> y.addMember()) == Check.STATE);
+        one.settle(0);
+        Check.isTrue("nor when it is settled", Check.thrown(one, y -> y.addMember()) == Check.STATE);
+        Check.equal("members", one.members(), 2);
+    }
+
+    /** No setting is bound to a time: the same calls when nothing, something, and all is closed or settled. */
+    private static void settingsAtAnyTime() {
+        EnergyLedger[] ledgers = {Scenes.withMembers(2), Scenes.closed(1), Scenes.full(), Scenes.settled()};
+        for (EnergyLedger x : ledgers) {
+            int content = x.content();
+            Check.equal("setMember", x.setMember(1, 100, 99), 10);
+            Check.equal("setMember", x.setMember(1, 0, 0), 100);
+            Check.equal("setRule", x.setRule(3), 0);
+            Check.equal("setRule", x.setRule(1), 3);
+            Check.equal("setPrices", x.setPrices(0, 0, 100), 18);
+            Check.equal("setPrices", x.setPrices(0, 0, 0), 100);
+            Check.equal("setBattery, just the content", x.setBattery(content, 0, 1), 0);
+            Check.equal("content", x.content(), content);
+            Check.equal("setBattery, nothing", x.setBattery(0, 0, 1), content);
+            Check.equal("content", x.content(), 0);
+        }
     }
 
     private static void firstValues() {
@@ -129,7 +178,8 @@ public final class MembersTest {
         x.meter(0, 0, 5000, 0);
         x.close();
         Check.equal("content", x.content(), 5000);
-        Check.equal("nothing is gone", x.setBattery(5000, 0, 1), 0);
+        Check.equal("nothing is gone, one more than the content", x.setBattery(5001, 0, 1), 0);
+        Check.equal("nothing is gone, just the content", x.setBattery(5000, 0, 1), 0);
         Check.equal("content", x.content(), 5000);
         Check.equal("what is above is gone", x.setBattery(4999, 0, 1), 1);
         Check.equal("content", x.content(), 4999);
@@ -138,6 +188,8 @@ public final class MembersTest {
         Check.equal("all is gone", x.setBattery(0, 0, 50), 4999);
         Check.equal("content", x.content(), 0);
         Check.equal("no account moves", x.common(0), -5000 * 18);
+        Check.equal("nor that of the member", x.account(0, false), 5000 * 18);
+        Check.equal("contentAt of the closed slot stays", x.contentAt(0), 0);
     }
 
     private static void refusals() {

@@ -5,10 +5,14 @@ public final class MoneyTest {
     public static void main(String[] args) {
         accounts();
         settle();
+        settleAtTheEdges();
         pay();
+        payAtTheEdges();
         late();
+        lateAtTheEdges();
         corrections();
         independence();
+        independenceAtTheEdges();
         digest();
         refusals();
         Check.end("MoneyTest");
@@ -68,6 +72,42 @@ public final class MoneyTest {
         Check.equal("all slots", Scenes.full().settle(1), 48);
     }
 
+    /** Balances below, at and above 0; a fee of 0, 1 and 10000; no member, one, and six of them. */
+    private static void settleAtTheEdges() {
+        int[] fees = {0, 1, 10000};
+        for (int fee : fees) {
+            EnergyLedger x = Scenes.withMembers(3);
+            x.meter(0, 0, 1, 0);
+            x.meter(1, 0, 0, 2);
+            x.close();
+            Check.equal("settle", x.settle(fee), 1);
+            long[] balances = {18, -18 - 30, 0};
+            for (int m = 0; m < 3; m++) {
+                Check.equal("the due", x.account(m, true), balances[m] - fee);
+                Check.equal("the balance", x.account(m, false), 0);
+            }
+            Check.equal("the pot", x.common(0), 3 * fee);
+            Check.equal("the grid", x.common(1), 30);
+            Check.equal("the bank", x.common(2), 0);
+            Check.equal("once more", x.settle(fee), 0);
+            Check.equal("the fee is paid once more", x.account(2, true), -2 * fee);
+            Check.equal("the pot", x.common(0), 6 * fee);
+            for (int count = 0; count <= 6; count++) {
+                EnergyLedger y = Scenes.withMembers(count);
+                y.settle(fee);
+                Check.equal("the pot of " + count + " members", y.common(0), count * fee);
+            }
+        }
+        EnergyLedger all = Scenes.closed(47);
+        Check.equal("all but the last slot", all.settle(0), 47);
+        all.close();
+        Check.equal("the last slot", all.settle(0), 1);
+        Check.equal("none is left", all.settle(0), 0);
+        EnergyLedger corrected = Scenes.closed(2);
+        corrected.correct(1, 1, 0, 3);
+        Check.equal("a slot that was corrected counts once", corrected.settle(0), 2);
+    }
+
     private static void pay() {
         EnergyLedger x = Scenes.withMembers(2);
         Check.equal("pay", x.pay(0, 1), 1);
@@ -85,6 +125,23 @@ public final class MoneyTest {
         }
         Check.equal("a long way", x.account(0, true), -399000000);
         Check.equal("the bank", x.common(2), 399999993);
+    }
+
+    /** From below 0 to 0 and above, and back; the amounts that are allowed least and most. */
+    private static void payAtTheEdges() {
+        EnergyLedger x = Scenes.withMembers(6);
+        x.settle(1);
+        Check.equal("to 0", x.pay(5, 1), 0);
+        Check.equal("above 0", x.pay(5, 1), 1);
+        Check.equal("back to 0", x.pay(5, -1), 0);
+        Check.equal("below 0", x.pay(5, -1), -1);
+        Check.equal("the most", x.pay(5, 1000000), 999999);
+        Check.equal("the least", x.pay(5, -1000000), -1);
+        Check.equal("one below the most", x.pay(5, 999999), 999998);
+        Check.equal("one above the least", x.pay(5, -999999), -1);
+        Check.equal("the bank", x.common(2), 0);
+        Check.equal("the others", x.account(4, true), -1);
+        Check.equal("the pot", x.common(0), 6);
     }
 
     private static void late() {
@@ -109,6 +166,36 @@ public final class MoneyTest {
         y.settle(0);
         Check.equal("now it is", y.late(149), 1);
         Check.equal("but not more than that", y.late(150), 0);
+    }
+
+    /** "less than minus the limit": just minus the limit is not; the limits 0 and 1; all members and none. */
+    private static void lateAtTheEdges() {
+        int[] limits = {0, 1, 2, 999999, 1000000};
+        for (int limit : limits) {
+            for (int m = 0; m < 6; m++) {
+                EnergyLedger x = Scenes.withMembers(6);
+                if (limit > 0) {
+                    x.pay(m, -limit);
+                }
+                Check.equal("just minus the limit", x.late(limit), 0);
+                x.pay(m, -1);
+                Check.equal("one less", x.late(limit), 1 << m);
+                Check.equal("the next limit", x.late(limit + 1), 0);
+                x.pay(m, 2);
+                Check.equal("one more", x.late(limit), 0);
+            }
+        }
+        EnergyLedger all = Scenes.withMembers(6);
+        all.settle(10000);
+        Check.equal("all", all.late(9999), 63);
+        Check.equal("all, without a limit", all.late(0), 63);
+        Check.equal("none", all.late(10000), 0);
+        Check.equal("none of the greatest limit", all.late(Integer.MAX_VALUE), 0);
+        all.pay(0, 10000);
+        Check.equal("all but the first", all.late(0), 62);
+        all.pay(5, 20000);
+        Check.equal("all but the first and the last", all.late(0), 30);
+        Check.equal("without members", new EnergyLedger().late(0), 0);
     }
 
     private static void corrections() {
@@ -154,6 +241,34 @@ public final class MoneyTest {
         battery.meter(0, 1, 0, 5);
         battery.close();
         Check.equal("the battery is not the grid", battery.independence(), 3.0 / 5.0);
+    }
+
+    /** Nothing used, 1 used; nothing from the grid, all of it, all but 1. */
+    private static void independenceAtTheEdges() {
+        double[][] usedOwnAndDue = {{0, 0, 1.0}, {0, 5000, 1.0}, {1, 0, 0.0}, {1, 1, 1.0}, {5000, 0, 0.0},
+            {5000, 1, 1.0 / 5000.0}, {5000, 4999, 4999.0 / 5000.0}, {5000, 5000, 1.0}, {3, 1, 1.0 / 3.0}};
+        for (double[] c : usedOwnAndDue) {
+            EnergyLedger x = Scenes.withMembers(6);
+            x.meter(5, 0, (int) c[1], (int) c[0]);
+            Check.equal("ahead of the close", x.independence(), 1.0);
+            x.close();
+            Check.equal("independence", x.independence(), c[2]);
+        }
+        EnergyLedger x = Scenes.withMembers(2);
+        x.meter(0, 0, 0, 10);
+        x.close();
+        Check.equal("all from the grid", x.independence(), 0.0);
+        x.correct(0, 0, 0, 0);
+        Check.equal("nothing is used, closed anew", x.independence(), 1.0);
+        x.correct(1, 0, 7, 0);
+        x.correct(0, 0, 0, 10);
+        Check.equal("what came from members", x.independence(), 7.0 / 10.0);
+        EnergyLedger all = Scenes.withMembers(1);
+        for (int slot = 0; slot < 48; slot++) {
+            all.meter(0, slot, slot == 0 || slot == 47 ? 1 : 0, 1);
+            all.close();
+        }
+        Check.equal("from the first slot to the last", all.independence(), 2.0 / 48.0);
     }
 
     private static void digest() {

@@ -44,13 +44,41 @@ final class Scenes {
         return x;
     }
 
-    /** Two members and 48 closed slots. */
-    static EnergyLedger full() {
-        EnergyLedger x = withMembers(2);
-        x.meter(0, 47, 10, 0);
-        for (int slot = 0; slot < 48; slot++) {
+    /** So many members, of which each has readings in slot 0, which is closed, and in slot 1, which is not. */
+    static EnergyLedger crowd(int count) {
+        EnergyLedger x = withMembers(count);
+        x.setBattery(2000, 700, 95);
+        for (int k = 0; k < count; k++) {
+            x.meter(k, 0, 300 * k, 1000 - 200 * k);
+            x.meter(k, 1, 100 + k, 40 * k);
+        }
+        if (count > 0) {
             x.close();
         }
+        return x;
+    }
+
+    /** Two members and so many closed slots. */
+    static EnergyLedger closed(int slots) {
+        EnergyLedger x = withMembers(2);
+        x.setBattery(50, 5, 100);
+        x.meter(0, 0, 12, 3);
+        x.meter(0, 47, 10, 0);
+        for (int slot = 0; slot < slots; slot++) {
+            x.close();
+        }
+        return x;
+    }
+
+    /** Two members and 48 closed slots. */
+    static EnergyLedger full() {
+        return closed(48);
+    }
+
+    /** The same, all settled. */
+    static EnergyLedger settled() {
+        EnergyLedger x = full();
+        x.settle(7);
         return x;
     }
 }

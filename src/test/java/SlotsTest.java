@@ -6,6 +6,7 @@ public final class SlotsTest {
 
     public static void main(String[] args) {
         meterAndReading();
+        meterAtTheEdges();
         presentAndClose();
         flows();
         contentAt();
@@ -34,6 +35,34 @@ public final class SlotsTest {
         Check.equal("reading of a closed slot", x.reading(0, 0, true), 4999);
         Check.equal("meter of the present slot", x.meter(0, 1, 0, 7), true);
         Check.equal("meter back to 0", x.meter(0, 1, 0, 0), true);
+    }
+
+    /** From 0 to 5000 and back, each alone and both; ahead of its time, up to the last slot. */
+    private static void meterAtTheEdges() {
+        int[][] readings = {{0, 5000}, {5000, 5000}, {5000, 0}, {4999, 0}, {4999, 1}, {0, 1}, {1, 1}, {1, 0}, {0, 0}};
+        EnergyLedger x = Scenes.withMembers(6);
+        for (int slot = 0; slot < 48; slot += 47) {
+            for (int m = 0; m < 6; m += 5) {
+                for (int[] r : readings) {
+                    Check.isTrue("another one", x.meter(m, slot, r[0], r[1]));
+                    Check.isTrue("the same", !x.meter(m, slot, r[0], r[1]));
+                    Check.equal("generated", x.reading(m, slot, false), r[0]);
+                    Check.equal("used", x.reading(m, slot, true), r[1]);
+                }
+            }
+        }
+        EnergyLedger ahead = Scenes.withMembers(2);
+        ahead.meter(0, 47, 5000, 0);
+        ahead.meter(1, 47, 0, 5000);
+        for (int slot = 0; slot < 47; slot++) {
+            Check.equal("close", ahead.close(), 0);
+            Check.equal("the last slot is still open", ahead.flow(47, 0, 4), 0);
+        }
+        Check.equal("the same as ahead of its time", ahead.meter(1, 47, 0, 5000), false);
+        Check.equal("close of the last slot", ahead.close(), 5000);
+        Check.equal("flow of the last slot", ahead.flow(47, 1, 1), 5000);
+        Check.isTrue("now it is closed", Check.thrown(ahead, y -> y.meter(1, 47, 0, 1)) == Check.STATE);
+        Check.equal("its reading", ahead.reading(1, 47, true), 5000);
     }
 
     private static void presentAndClose() {

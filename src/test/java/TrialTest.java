@@ -5,6 +5,8 @@ public final class TrialTest {
         wouldIsWhatCloseDoes();
         wouldChangesNothing();
         bestRule();
+        severalBest();
+        wouldAtTheEdges();
         refusals();
         Check.end("TrialTest");
     }
@@ -101,6 +103,83 @@ public final class TrialTest {
         last.meter(0, 47, 0, 2);
         Check.equal("would of the last slot", last.would(0, 1), -60);
         Check.equal("bestRule of the last slot", last.bestRule(0), 0);
+    }
+
+    /** "Of several the one with the smallest number", also where the greatest is below 0, at 0 and above it. */
+    private static void severalBest() {
+        EnergyLedger x = Scenes.withMembers(4);
+        x.meter(0, 0, 0, 10);
+        x.meter(1, 0, 0, 30);
+        x.meter(2, 0, 0, 20);
+        x.meter(3, 0, 40, 0);
+        x.setMember(1, 0, 9);
+        x.setMember(0, 10, 2);
+        x.setMember(2, 10, 1);
+        // what the second gets: EQUAL 15, SHARES 10, ROOM 20, RANK 10
+        Check.equal("one alone, ROOM", x.bestRule(1), 2);
+        x.setMember(0, 10, 10);
+        x.setMember(2, 10, 8);
+        Check.equal("ROOM and RANK", x.would(1, 2), x.would(1, 3));
+        Check.equal("ROOM and RANK", x.bestRule(1), 2);
+        x.setMember(1, 0, 0);
+        Check.equal("one alone, RANK", x.bestRule(1), 3);
+        x.setMember(1, 100, 0);
+        Check.equal("SHARES and RANK", x.would(1, 1), x.would(1, 3));
+        Check.equal("SHARES and RANK", x.bestRule(1), 1);
+        x.setMember(1, 100, 9);
+        Check.equal("one alone, SHARES", x.bestRule(1), 1);
+        x.setMember(2, 100, 99);
+        x.setMember(0, 0, 98);
+        x.setMember(1, 100, 97);
+        Check.equal("EQUAL, SHARES, ROOM differ", x.bestRule(1), 3);
+        x.setPrices(18, 8, 18);
+        Check.equal("all alike below 0", x.bestRule(1), 0);
+        x.setPrices(0, 0, 0);
+        Check.equal("all alike at 0", x.bestRule(1), 0);
+        x.setPrices(30, 8, 18);
+        Check.equal("all alike above 0", x.bestRule(3), 0);
+        // needs of 5 and 10, 10 for them: EQUAL 5, SHARES 3, ROOM 4, RANK 5
+        EnergyLedger y = Scenes.withMembers(3);
+        y.meter(0, 0, 0, 5);
+        y.meter(1, 0, 0, 10);
+        y.meter(2, 0, 10, 0);
+        y.setMember(0, 1, 0);
+        y.setMember(1, 3, 1);
+        int[] got = {5, 3, 4, 5};
+        for (int rule = 0; rule < 4; rule++) {
+            Check.equal("would by " + rule, y.would(0, rule), -18 * got[rule] - 30 * (5 - got[rule]));
+        }
+        Check.equal("EQUAL and RANK", y.bestRule(0), 0);
+        y.setPrices(0, 0, 1);
+        Check.equal("the least is the best, SHARES", y.bestRule(0), 1);
+    }
+
+    /** The first and the last slot, the greatest amounts, and a battery that has nothing or is full. */
+    private static void wouldAtTheEdges() {
+        EnergyLedger x = Scenes.withMembers(1);
+        x.setPrices(100, 100, 100);
+        for (int slot = 0; slot < 48; slot++) {
+            x.meter(0, slot, 5000, 0);
+            Check.equal("would of all that is generated", x.would(0, slot % 4), 500000);
+            x.meter(0, slot, 0, 5000);
+            Check.equal("would of all that is used", x.would(0, slot % 4), -500000);
+            x.close();
+        }
+        Check.isTrue("no slot is left", Check.thrown(x, y -> y.would(0, 0)) == Check.STATE);
+        EnergyLedger b = Scenes.withMembers(1);
+        b.setBattery(10, 10, 100);
+        b.meter(0, 0, 0, 10);
+        Check.equal("the battery is empty", b.would(0, 0), -300);
+        b.meter(0, 0, 10, 0);
+        Check.equal("it takes all", b.would(0, 0), 180);
+        b.close();
+        b.meter(0, 1, 10, 0);
+        Check.equal("it is full", b.would(0, 0), 80);
+        b.meter(0, 1, 0, 10);
+        Check.equal("it gives all", b.would(0, 0), -180);
+        Check.equal("content", b.content(), 10);
+        b.setBattery(9, 10, 100);
+        Check.equal("one is gone", b.would(0, 0), -9 * 18 - 30);
     }
 
     private static void refusals() {
