@@ -55,13 +55,15 @@ final class Trace {
         for (int slot = 0; slot < SLOTS; slot++) {
             add(out, x.contentAt(slot));
         }
-        for (int m = 0; m < x.members(); m++) {
+        int members = x.members();
+        int present = x.present();
+        for (int m = 0; m < members; m++) {
             add(out, x.account(m, false));
             add(out, x.account(m, true));
             for (int what = 0; what < 8; what++) {
-                add(out, x.flow(Math.min(x.present(), SLOTS - 1), m, what));
+                add(out, x.flow(Math.min(present, SLOTS - 1), m, what));
             }
-            for (int rule = 0; rule < 4 && x.present() < SLOTS; rule++) {
+            for (int rule = 0; rule < 4 && present < SLOTS; rule++) {
                 add(out, x.would(m, rule));
             }
         }
@@ -69,14 +71,15 @@ final class Trace {
         add(out, x.setRule(0));
         add(out, x.setPrices(0, 0, 0));
         add(out, x.setBattery(0, 0, 1));
-        for (int m = 0; m < x.members(); m++) {
+        for (int m = 0; m < members; m++) {
             add(out, x.setMember(m, 0, 0));
         }
     }
 
     private static void readings(StringBuilder out, EnergyLedger x, boolean isUsed) {
+        int members = x.members();
         for (int slot = 0; slot < SLOTS; slot++) {
-            for (int m = 0; m < x.members(); m++) {
+            for (int m = 0; m < members; m++) {
                 add(out, x.reading(m, slot, isUsed));
             }
         }
@@ -85,9 +88,10 @@ final class Trace {
     /** The readings that are there, then much surplus, then much need, then some of both. */
     private static void future(StringBuilder out, EnergyLedger x) {
         add(out, Check.thrown(x, y -> y.addMember()));
+        int members = x.members();
         int first = x.present();
-        for (int more = 0; more < 4 && x.members() > 0 && x.present() < SLOTS; more++) {
-            for (int m = 0; m < x.members() && more > 0; m++) {
+        for (int more = 0; more < 4 && members > 0 && first + more < SLOTS; more++) {
+            for (int m = 0; m < members && more > 0; m++) {
                 int much = 5000 - 700 * m;
                 boolean isGiver = more == 1 || more == 3 && m == 0;
                 x.meter(m, first + more, isGiver ? much : 0, isGiver ? 0 : much);
@@ -100,8 +104,10 @@ final class Trace {
     }
 
     private static void past(StringBuilder out, EnergyLedger x) {
-        for (int slot = 0; slot < Math.min(SLOTS, x.present() + 1); slot++) {
-            for (int m = 0; m < Math.min(2, x.members()); m++) {
+        int slots = Math.min(SLOTS, x.present() + 1);
+        int members = Math.min(2, x.members());
+        for (int slot = 0; slot < slots; slot++) {
+            for (int m = 0; m < members; m++) {
                 int member = m;
                 int number = slot;
                 add(out, Check.thrown(x, y -> y.correct(member, number, 3000 + member, 100 * number)));
